@@ -1,0 +1,90 @@
+import java.util.Random;
+
+/** Texts of swaps by chance, good ones and spoilt ones. */
+final class Texts {
+    private static final String[] PIECES = {"swap", "frames", "step", "big", "data", "x", "store", "load", "drop", ";",
+        ",", " ", "0", "1", "16", "17", "24", "25", "29", "30", "99", "100", "999", "1000", "0001", "a", "framess",
+        "swapx", "$", "A", "\u0000", "\u00ff", "\t", ";;", "data 3 x 16;", "load 1;", ";drop 0", ";swap"};
+
+    private Texts() {
+    }
+
+    static String good(Random r) {
+        StringBuilder text = new StringBuilder();
+        text.append("swap frames ").append(1 + r.nextInt(r.nextBoolean() ? 8 : 24));
+        text.append(" step ").append(1 + r.nextInt(4)).append(" big ").append(4 + r.nextInt(12));
+        int data = r.nextInt(11);
+        int ops = r.nextInt(25);
+        int told = 0;
+        for (int left = data + ops; left > 0; left--) {
+            String line;
+            if (told < data && (r.nextInt(left) < data - told || r.nextInt(3) > 0)) {
+                line = data(r);
+                told++;
+            } else {
+                line = op(r, told);
+            }
+            if (text.length() + line.length() + 1 > 890) {
+                break;
+            }
+            text.append(';').append(line);
+        }
+        return text.toString();
+    }
+
+    private static String op(Random r, int told) {
+        int page = r.nextInt(r.nextBoolean() ? 6 : 30);
+        if (told > 0 && r.nextInt(3) > 0) {
+            return "store " + page + " " + r.nextInt(told);
+        }
+        return (r.nextBoolean() ? "load " : "drop ") + page;
+    }
+
+    private static String data(Random r) {
+        int[] cells = cells(r);
+        StringBuilder text = new StringBuilder("data ");
+        for (int i = 0; i < 16;) {
+            int alike = 1;
+            while (i + alike < 16 && cells[i + alike] == cells[i]) {
+                alike++;
+            }
+            int times = alike == 1 ? 1 : 1 + r.nextInt(alike);
+            text.append(i == 0 ? "" : ",").append(cells[i]);
+            if (times > 1 || r.nextInt(20) == 0) {
+                text.append(r.nextBoolean() ? "x" : " x ").append(times);
+            }
+            i += times;
+        }
+        return text.toString();
+    }
+
+    static int[] cells(Random r) {
+        int[] cells = new int[16];
+        int values = 1 + r.nextInt(r.nextInt(3) == 0 ? 100 : 4);
+        int period = 1 + r.nextInt(8);
+        int sort = r.nextInt(5);
+        for (int i = 0; i < 16; i++) {
+            boolean repeats = sort == 0 ? i > 0 && r.nextInt(3) > 0 : sort < 3 && i >= period && r.nextInt(8) > 0;
+            cells[i] = repeats ? cells[i - (sort == 0 ? 1 : period)] : r.nextInt(values);
+        }
+        return cells;
+    }
+
+    static String spoilt(Random r) {
+        StringBuilder text = new StringBuilder(good(r));
+        for (int times = r.nextInt(3); times >= 0; times--) {
+            int at = r.nextInt(text.length() + 1);
+            int cut = Math.min(text.length(), at + r.nextInt(r.nextInt(6) + 1));
+            switch (r.nextInt(4)) {
+                case 0: text.delete(at, cut); break;
+                case 1: text.insert(at, PIECES[r.nextInt(PIECES.length)]); break;
+                case 2: text.replace(at, cut, PIECES[r.nextInt(PIECES.length)]); break;
+                default: text.setLength(at); break;
+            }
+        }
+        if (text.length() > 900) {
+            text.setLength(900);
+        }
+        return text.toString();
+    }
+}
