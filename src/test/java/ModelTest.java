@@ -4,7 +4,7 @@ import java.util.Random;
 /** Runs of calls by chance (always the same ones), each answer beside that of SwapModel. */
 public final class ModelTest {
     private static final int RUNS = 500;
-    private static final int TEXTS = 12000;
+    private static final int TEXTS = 2000;
 
     private static final String[] ACTS = {"store", "store", "store", "store", "store", "store", "load", "drop", "hold",
         "hold", "release", "poke", "writeBack", "limit", "compact", "run", "undo", "undo"};
@@ -18,19 +18,26 @@ public final class ModelTest {
     private final SqueezedSwap x = new SqueezedSwap();
     private final SwapModel model = new SwapModel();
     private final int run;
+    private final int pages;
 
     private ModelTest(int run) {
         this.run = run;
+        this.pages = run % 3 == 0 ? 6 : run % 3 == 1 ? 14 : 30;
     }
 
     public static void main(String[] args) {
         for (int run = 0; run < RUNS && wrong < 20; run++) {
             new ModelTest(run).calls(new Random(run));
         }
+        for (int run = RUNS; run < 2 * RUNS && wrong < 20; run++) {
+            new ModelTest(run).holes(new Random(run));
+        }
         ModelTest texts = new ModelTest(-1);
         Random r = new Random(77);
         for (int i = 0; i < TEXTS && wrong < 20; i++) {
             texts.tell(Texts.spoilt(r));
+            texts.tell(Texts.misnumbered(r));
+            texts.tell(Texts.mixed(r));
         }
         System.out.println(wrong == 0 ? "the model answers alike" : wrong + " answers are not those of the model");
         if (wrong != 0) {
@@ -68,11 +75,42 @@ public final class ModelTest {
             calls(r, 20);
         }
         tell(Texts.good(r));
+        for (int stores = r.nextInt(30); stores > 0; stores--) {
+            call("store", r.nextInt(pages), r.nextInt(10));
+        }
         calls(r, 150);
         if (r.nextInt(3) == 0) {
             tell(Texts.spoilt(r));
             calls(r, 40);
         }
+    }
+
+    /** Many zones of few classes, of which many pages are dropped, so that there is something to be compacted. */
+    private void holes(Random r) {
+        tell(Texts.roomy(r));
+        for (int p = 0; p < 30; p++) {
+            call("store", p, r.nextInt(3));
+        }
+        for (int round = 0; round < 12; round++) {
+            for (int acts = r.nextInt(8); acts > 0; acts--) {
+                String[] few = {"drop", "drop", "hold", "store", "undo"};
+                String name = few[r.nextInt(few.length)];
+                call(name, name.equals("store") ? new int[] {r.nextInt(30), r.nextInt(3)} : arguments(name, r));
+            }
+            call("gain");
+            call("would", 1 + r.nextInt(12), r.nextInt(2));
+            call("holds", r.nextInt(2));
+            call("freeing");
+            if (r.nextInt(3) == 0) {
+                call("compact");
+                call("total", 3);
+            }
+            for (int z = 0; z < 24; z += 1 + r.nextInt(3)) {
+                call("zone", z, 2);
+                call("slot", z, r.nextInt(5));
+            }
+        }
+        calls(r, 20);
     }
 
     private void calls(Random r, int count) {
@@ -89,7 +127,7 @@ public final class ModelTest {
         }
     }
 
-    private static int[] arguments(String name, Random r) {
+    private int[] arguments(String name, Random r) {
         switch (name) {
             case "about": return new int[] {some(r, 0, 10)};
             case "cell": case "rest": return new int[] {some(r, 0, 9), some(r, 0, 15)};
@@ -123,8 +161,8 @@ public final class ModelTest {
         }
     }
 
-    private static int page(Random r) {
-        return r.nextInt(3) > 0 ? r.nextInt(8) : some(r, 0, 29);
+    private int page(Random r) {
+        return r.nextInt(12) > 0 ? r.nextInt(pages) : some(r, 0, 29);
     }
 
     /** Mostly within the bounds, now and then just outside, seldom far away. */

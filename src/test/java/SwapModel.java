@@ -3,7 +3,9 @@ import java.util.ArrayList;
 import java.util.Arrays;
 import java.util.Comparator;
 import java.util.Deque;
+import java.util.HashMap;
 import java.util.List;
+import java.util.Map;
 import java.util.TreeMap;
 import java.util.regex.Matcher;
 import java.util.regex.Pattern;
@@ -14,6 +16,7 @@ import java.util.regex.Pattern;
  */
 final class SwapModel {
     static final int THROWN = -1000;
+    private static final Map<List<Integer>, int[]> COSTS = new HashMap<>();
 
     private record Token(char sign, int place, int value) { }
 
@@ -331,6 +334,10 @@ final class SwapModel {
 
     /** What all costs least from each cell on: index 0 .. 16. */
     private static int[] costs(List<Integer> cells) {
+        int[] known = COSTS.get(cells);
+        if (known != null) {
+            return known;
+        }
         int[] costs = new int[17];
         for (int i = 15; i >= 0; i--) {
             costs[i] = Integer.MAX_VALUE;
@@ -338,6 +345,7 @@ final class SwapModel {
                 costs[i] = Math.min(costs[i], piece.cost + costs[i + piece.length]);
             }
         }
+        COSTS.put(new ArrayList<>(cells), costs);
         return costs;
     }
 
@@ -432,13 +440,19 @@ final class SwapModel {
     private static Fault parse(String text, State into, List<Op> ops) {
         List<Token> all = tokens(text);
         List<Fault> faults = new ArrayList<>();
-        List<Token> good = new ArrayList<>();
-        for (int i = 1; i <= all.size(); i++) {
-            if (!goesOn(all, i)) {
-                faults.add(new Fault(all.get(i - 1).place, 1));
-                break;
+        int goes = 0;
+        int ends = all.size() + 1;
+        while (goes + 1 < ends) {
+            int middle = (goes + ends) / 2;
+            if (goesOn(all, middle)) {
+                goes = middle;
+            } else {
+                ends = middle;
             }
-            good.add(all.get(i - 1));
+        }
+        List<Token> good = all.subList(0, goes);
+        if (goes < all.size()) {
+            faults.add(new Fault(all.get(goes).place, 1));
         }
         int swaps = 0;
         int from = 0;

@@ -12,9 +12,10 @@ final class Texts {
     static String good(Random r) {
         StringBuilder text = new StringBuilder();
         text.append("swap frames ").append(1 + r.nextInt(r.nextBoolean() ? 8 : 24));
-        text.append(" step ").append(1 + r.nextInt(4)).append(" big ").append(4 + r.nextInt(12));
-        int data = r.nextInt(11);
+        text.append(" step ").append(1 + r.nextInt(4)).append(" big ").append(15 - r.nextInt(r.nextInt(12) + 1));
+        int data = r.nextInt(4) == 0 ? r.nextInt(11) : 6 + r.nextInt(5);
         int ops = r.nextInt(25);
+        int pages = r.nextBoolean() ? 6 : 30;
         int told = 0;
         for (int left = data + ops; left > 0; left--) {
             String line;
@@ -22,7 +23,7 @@ final class Texts {
                 line = data(r);
                 told++;
             } else {
-                line = op(r, told);
+                line = op(r, told, r.nextInt(pages));
             }
             if (text.length() + line.length() + 1 > 890) {
                 break;
@@ -32,9 +33,21 @@ final class Texts {
         return text.toString();
     }
 
-    private static String op(Random r, int told) {
-        int page = r.nextInt(r.nextBoolean() ? 6 : 30);
-        if (told > 0 && r.nextInt(3) > 0) {
+    /** Room for many zones, and few data, so that many pages are of one class. */
+    static String roomy(Random r) {
+        StringBuilder text = new StringBuilder("swap frames ").append(12 + r.nextInt(13));
+        text.append(" step ").append(1 + r.nextInt(4)).append(" big 15");
+        for (int data = 1 + r.nextInt(3); data > 0; data--) {
+            text.append(';').append(data(r));
+        }
+        for (int ops = r.nextInt(25); ops > 0; ops--) {
+            text.append(";store ").append(r.nextInt(30)).append(" 0");
+        }
+        return text.toString();
+    }
+
+    private static String op(Random r, int told, int page) {
+        if (told > 0 && r.nextInt(4) > 0) {
             return "store " + page + " " + r.nextInt(told);
         }
         return (r.nextBoolean() ? "load " : "drop ") + page;
@@ -60,16 +73,17 @@ final class Texts {
 
     static int[] cells(Random r) {
         int[] cells = new int[16];
-        int values = 1 + r.nextInt(r.nextInt(3) == 0 ? 100 : 4);
+        int values = r.nextInt(12) == 0 ? 1 : 2 + r.nextInt(r.nextInt(3) == 0 ? 98 : 4);
         int period = 1 + r.nextInt(8);
         int sort = r.nextInt(5);
         for (int i = 0; i < 16; i++) {
-            boolean repeats = sort == 0 ? i > 0 && r.nextInt(3) > 0 : sort < 3 && i >= period && r.nextInt(8) > 0;
+            boolean repeats = sort == 0 ? i > 0 && r.nextInt(3) > 0 : sort < 4 && i >= period && r.nextInt(8) > 0;
             cells[i] = repeats ? cells[i - (sort == 0 ? 1 : period)] : r.nextInt(values);
         }
         return cells;
     }
 
+    /** A good text with some bytes spoilt. */
     static String spoilt(Random r) {
         StringBuilder text = new StringBuilder(good(r));
         for (int times = r.nextInt(3); times >= 0; times--) {
@@ -82,6 +96,33 @@ final class Texts {
                 default: text.setLength(at); break;
             }
         }
+        return atMost900(text);
+    }
+
+    /** A good text with numbers that are others, each of which may be out of bounds. */
+    static String misnumbered(Random r) {
+        StringBuilder text = new StringBuilder();
+        for (String part : good(r).split("(?<=[0-9])(?=[^0-9])|(?<=[^0-9])(?=[0-9])")) {
+            boolean other = Character.isDigit(part.charAt(0)) && r.nextInt(25) == 0;
+            text.append(other ? String.valueOf(r.nextInt(r.nextBoolean() ? 32 : 110)) : part);
+        }
+        return atMost900(text);
+    }
+
+    /** Whole lines in any number and order, mostly behind the swap. */
+    static String mixed(Random r) {
+        StringBuilder text = new StringBuilder(r.nextInt(4) == 0 ? "" : "swap frames 4 step 2 big 12;");
+        int sorts = 1 + r.nextInt(5);
+        int again = 5 + r.nextInt(60);
+        for (int lines = r.nextInt(45); lines >= 0; lines--) {
+            String line = r.nextInt(again) == 0 ? "swap frames 1 step 1 big 4"
+                : r.nextInt(5) < sorts ? "data " + r.nextInt(100) + " x 16" : op(r, r.nextInt(4), r.nextInt(30));
+            text.append(line).append(lines > 0 ? ";" : "");
+        }
+        return atMost900(text);
+    }
+
+    private static String atMost900(StringBuilder text) {
         if (text.length() > 900) {
             text.setLength(900);
         }
