@@ -55,7 +55,6 @@ public final class SqueezedSwap {
     private int faultNumber;
     private int faultPlace;
     private Script script = new Script();
-    private Script draft = new Script();
     private final Reader reader = new Reader();
     private final Cut cut = new Cut();
     private final State now = new State();
@@ -84,14 +83,12 @@ public final class SqueezedSwap {
             return refuse(BAD_NUMBER);
         }
         tapeLength = 0;
-        faultNumber = reader.readScript(tape, n, draft);
+        faultNumber = reader.readScript(tape, n);
         if (faultNumber != 0) {
             faultPlace = reader.place();
             return refuse(FAULTY);
         }
-        Script former = script;
-        script = draft;
-        draft = former;
+        script = reader.trade(script);
         swapTold = true;
         now.begin(script, cut);
         history.forget();
@@ -783,10 +780,9 @@ public final class SqueezedSwap {
         private Script told = new Script();
 
         /** The number of the first fault, 0 without one. */
-        int readScript(int[] text, int length, Script script) {
+        int readScript(int[] text, int length) {
             bytes = text;
             end = Math.min(length, text.length);
-            told = script;
             told.clear();
             at = 0;
             begun = false;
@@ -798,6 +794,13 @@ public final class SqueezedSwap {
                 more = readLine();
             }
             return found;
+        }
+
+        /** Gives the script that was read for one that may be written over. */
+        Script trade(Script former) {
+            Script read = told;
+            told = former;
+            return read;
         }
 
         /** Where the first fault is. */
@@ -1679,12 +1682,6 @@ public final class SqueezedSwap {
         private int end;
         int kept;
 
-        History() {
-            for (int i = 0; i < UNDO_ROOM; i++) {
-                ring[i] = new State();
-            }
-        }
-
         void forget() {
             kept = 0;
         }
@@ -1693,6 +1690,10 @@ public final class SqueezedSwap {
             if (end >= UNDO_ROOM) {
                 end = 0;
             }
+            // Made when it is first needed, so that an object of few acts stays small.
+            if (ring[end] == null) {
+                ring[end] = new State();
+            }
             ring[end].copyFrom(state);
             end++;
             kept = Math.min(UNDO_ROOM, kept + 1);
@@ -1700,14 +1701,15 @@ public final class SqueezedSwap {
 
         /** False if there is nothing to be undone. */
         boolean takeBack(State state) {
-            if (kept <= 0) {
-                return false;
-            }
             if (end <= 0) {
                 end = UNDO_ROOM;
             }
+            State former = ring[end - 1];
+            if (kept <= 0 || former == null) {
+                return false;
+            }
+            state.copyFrom(former);
             end--;
-            state.copyFrom(ring[end]);
             kept--;
             return true;
         }

@@ -10,8 +10,12 @@ import java.util.Random;
 
 /** How much room an object takes, and that its calls make none more; and that calls of any arguments end and don't throw. */
 public final class RoomTest {
-    private static final long OBJECTS_MOST = 500;
-    private static final long ELEMENTS_MOST = 25000;
+    // All calls of a run share some 600,000 objects and 7.3 million elements: 512 calls, and the dearest makes an object.
+    private static final long OBJECTS_MOST = 1000;
+    private static final long ELEMENTS_MOST = 14000;
+    private static final int UNDO_STATES = 10;
+    private static final String TEXT =
+        "swap frames 9 step 2 big 12;data 1,2,3,4,5,9 x 11;data 1 x 8,2 x 8;store 1 0;load 1;drop 1";
     private static final int[] FAR = {Integer.MIN_VALUE, Integer.MIN_VALUE + 1, -1000000007, -17, -2, -1, 0, 1, 2, 3, 4,
         5, 9, 10, 15, 16, 17, 23, 24, 25, 29, 30, 31, 900, 901, 1 << 27, 1 << 28, Integer.MAX_VALUE - 1,
         Integer.MAX_VALUE};
@@ -23,7 +27,7 @@ public final class RoomTest {
     }
 
     public static void main(String[] args) {
-        boolean good = roomOfOne() & callsMakeNothing() & farArguments();
+        boolean good = roomOfOne() & callsMakeNothing(usedUp()) & farArguments();
         System.out.println(good ? "there is room enough" : "there is too little room, or a call throws");
         if (!good) {
             System.exit(1);
@@ -32,10 +36,23 @@ public final class RoomTest {
 
     private static boolean roomOfOne() {
         SqueezedSwap x = new SqueezedSwap();
-        exercise(x, new Random(5));
         count(x, new IdentityHashMap<>());
-        System.out.println("an object takes " + objects + " objects, " + elements + " fields and elements");
-        return objects <= OBJECTS_MOST && elements <= ELEMENTS_MOST;
+        System.out.println("a new object takes " + objects + " objects, " + elements + " fields and elements");
+        boolean small = objects <= OBJECTS_MOST && elements <= ELEMENTS_MOST;
+        long one = elements;
+        objects = 0;
+        elements = 0;
+        count(usedUp(), new IdentityHashMap<>());
+        System.out.println("a used one takes " + objects + " objects, " + elements + " fields and elements");
+        return small && (elements - one) / UNDO_STATES <= ELEMENTS_MOST;
+    }
+
+    /** One of which all has been made that it ever makes. */
+    private static SqueezedSwap usedUp() {
+        SqueezedSwap x = new SqueezedSwap();
+        Driver.tell(x, TEXT);
+        exercise(x, new Random(5));
+        return x;
     }
 
     private static void count(Object o, Map<Object, Boolean> seen) {
@@ -65,11 +82,10 @@ public final class RoomTest {
         }
     }
 
-    private static boolean callsMakeNothing() {
+    private static boolean callsMakeNothing(SqueezedSwap x) {
         ThreadMXBean threads = (ThreadMXBean) ManagementFactory.getThreadMXBean();
         long id = Thread.currentThread().getId();
-        SqueezedSwap x = new SqueezedSwap();
-        int[][] feeds = Driver.feeds("swap frames 9 step 2 big 12;data 1,2,3,4,5,9 x 11;data 1 x 8,2 x 8;store 1 0");
+        int[][] feeds = Driver.feeds(TEXT);
         Random r = new Random(6);
         threads.getThreadAllocatedBytes(id);
         long before = threads.getThreadAllocatedBytes(id);
@@ -77,7 +93,7 @@ public final class RoomTest {
             for (int[] f : feeds) {
                 x.feed(f[0], f[1], f[2], f[3], f[4]);
             }
-            x.swap(feeds.length * 20 - 3);
+            x.swap(TEXT.length());
             exercise(x, r);
         }
         long made = threads.getThreadAllocatedBytes(id) - before;
