@@ -1550,7 +1550,7 @@ public final class SqueezedSwap {
         }
 
         private void compactClass(int s) {
-            // A zone that gives goes on giving till it is gone, or the last but one that isn't full.
+            // A zone that begins to give gives all it has, or ends as the only one that isn't full.
             for (int moves = 0; moves < ZONE_ROOM * SLOT_ROOM; moves++) {
                 int giver = zones.emptiest(s);
                 int taker = zones.fullest(s, giver);

@@ -172,6 +172,19 @@ public final class PromiseTest {
         refused(x, "undo()", x.undo(), 1);
         refused(x, "page(0)", x.page(0), 1);
         refused(x, "freeing()", x.freeing(), 1);
+        refused(x, "ranked(0)", x.ranked(0), 1);
+        x.swap(1);
+        refused(x, "gain()", x.gain(), 1);
+        x.swap(1);
+        refused(x, "fittest()", x.fittest(), 1);
+        x.swap(1);
+        refused(x, "waste()", x.waste(), 1);
+        x.swap(1);
+        refused(x, "holds(true)", x.holds(true), 1);
+        x.swap(1);
+        refused(x, "enough()", x.enough(), 1);
+        x.swap(1);
+        refused(x, "compact()", x.compact(), 1);
         due("NONE", SqueezedSwap.NONE, -1);
     }
 
@@ -250,6 +263,9 @@ public final class PromiseTest {
         faulty("12", 1, 0);
         faulty("swops", 1, 0);
         faulty("Swap", 1, 0);
+        faulty("swapa frames", 1, 0);
+        faulty("swapz frames", 1, 0);
+        faulty("swap ", "framesz 1", 1);
         faulty("swap frames 1 step 1 big", 1, 24);
         faulty("swap frames 1 step 1 big ", 1, 25);
         faulty("swap ", "step 1", 1);
@@ -439,6 +455,7 @@ public final class PromiseTest {
         SqueezedSwap x = told();
         cutIs(x, 0, new int[][] {{0, 0, 16, 0}});
         cutIs(x, 1, new int[][] {{2, 0, 4, 0}, {1, 4, 8, 4}, {1, 12, 4, 4}});
+        due("piece(3, 1, 1), asked for first", x.piece(3, 1, 1), 8);
         cutIs(x, 3, new int[][] {{2, 0, 8, 0}, {2, 8, 8, 0}});
         // The run comes first, though one plain piece would cost no more.
         cutIs(x, 5, new int[][] {{0, 0, 2, 0}, {2, 2, 2, 0}, {0, 4, 12, 0}});
@@ -758,6 +775,10 @@ public final class PromiseTest {
         x.poke(4, 15, 9);
         x.store(5, 4);
         due("same(4, 5): the last cell", x.same(4, 5), 0);
+        x.poke(4, 15, 4);
+        x.poke(4, 0, 8);
+        x.store(5, 4);
+        due("same(4, 5): the first cell", x.same(4, 5), 0);
         refused(x, "same(9, 0)", x.same(9, 0), 5);
         refused(x, "same(0, 9)", x.same(0, 9), 5);
         refused(x, "same(9, 30)", x.same(9, 30), 1);
@@ -810,6 +831,8 @@ public final class PromiseTest {
         promise = 32;
         SqueezedSwap x = told();
         due("holds(false) of nothing", x.holds(false), 1);
+        x.store(1, 2);
+        due("holds(false) of a frame", x.holds(false), 1);
         x = filled();
         due("holds(false)", x.holds(false), 4);
         due("holds(true)", x.holds(true), 4);
@@ -887,6 +910,9 @@ public final class PromiseTest {
         x = told(HEAD + DATA + ";store 0 5;load 5;drop 5");
         due("foretold(3, 1, 1)", x.foretold(3, 1, 1), 1);
         due("foretold(3, 2, 1)", x.foretold(3, 2, 1), 0);
+        due("foretold(3, 3, 1): class 9, four frames", x.foretold(3, 3, 1), 1);
+        due("foretold(1, 4, 1)", x.foretold(1, 4, 1), 0);
+        due("foretold(24, 4, 0)", x.foretold(24, 4, 0), 0);
     }
 
     private static void enough() {
