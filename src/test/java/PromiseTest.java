@@ -1,18 +1,7 @@
 import java.util.NoSuchElementException;
 
 /** For each promise of the document what it says, worked out by hand: ordinary inputs, edges and wrong inputs. */
-public final class PromiseTest {
-    private static int wrong;
-    private static int promise;
-
-    // Sizes 2 (a word), 11, 4, 18 (too big), 4, 7; homes 12, 4, 4, 8.
-    private static final String HEAD = "swap frames 4 step 2 big 12";
-    private static final String DATA = ";data 7 x 16;data 1,2,3,4,1,2,3,4,1,2,3,4,1,2,3,4;data 5 x 8,6 x 8"
-        + ";data 1,2,3,4,5,6,7,8,9,10,11,12,13,14,15,16;data 9 x 12,4 x 4;data 1,1,2,3,9 x 12";
-    private static final String OPS = ";store 0 1;store 1 2;load 0;drop 1;store 2 3";
-    // Sizes 8 and 4: zones of a frame, with two slots and with four.
-    private static final String ROOMY = "swap frames 24 step 4 big 15;data 1,2,3,4,5,9 x 11;data 1 x 8,2 x 8";
-
+public final class PromiseTest extends Checks {
     public static void main(String[] args) {
         newObject();
         feed();
@@ -71,86 +60,11 @@ public final class PromiseTest {
         onDisk();
         size();
         trouble();
-        System.out.println(wrong == 0 ? "the promises hold" : wrong + " answers are not as promised");
-        if (wrong != 0) {
-            System.exit(1);
-        }
-    }
-
-    private static void due(String call, int got, int want) {
-        if (got != want) {
-            wrong++;
-            System.out.println("promise " + promise + ": " + call + " answered " + got + ", due is " + want);
-        }
-    }
-
-    private static void due(String call, boolean got, boolean want) {
-        due(call, got ? 1 : 0, want ? 1 : 0);
-    }
-
-    private static void refused(SqueezedSwap x, String call, int got, int trouble) {
-        due(call, got, -1);
-        due("trouble() behind " + call, x.trouble(), trouble);
-    }
-
-    private static void refused(SqueezedSwap x, String call, boolean got, int trouble) {
-        due(call, got, false);
-        due("trouble() behind " + call, x.trouble(), trouble);
-    }
-
-    private static SqueezedSwap told(String text) {
-        SqueezedSwap x = new SqueezedSwap();
-        if (Driver.tell(x, text) < 0) {
-            wrong++;
-            System.out.println("promise " + promise + ": refused at " + x.where() + " by " + x.fault() + ": " + text);
-        }
-        return x;
-    }
-
-    private static SqueezedSwap told() {
-        return told(HEAD + DATA + OPS);
-    }
-
-    /** Page 0 in zone 0 (class 12), 1 and 4 in zone 1 (class 4), 2 a word, 3 on disk; four frames of four. */
-    private static SqueezedSwap filled() {
-        SqueezedSwap x = told();
-        x.store(0, 1);
-        x.store(1, 2);
-        x.store(2, 0);
-        x.store(3, 3);
-        x.store(4, 4);
-        return x;
-    }
-
-    /** Three zones of class 8, with pages 0, 3 and 5 in them, each alone. */
-    private static SqueezedSwap holed() {
-        SqueezedSwap x = told(ROOMY);
-        for (int p = 0; p < 6; p++) {
-            x.store(p, 0);
-        }
-        x.drop(1);
-        x.drop(2);
-        x.drop(4);
-        return x;
-    }
-
-    private static void faulty(String text, int number, int place) {
-        SqueezedSwap x = new SqueezedSwap();
-        due("the swap of " + text, Driver.tell(x, text), -1);
-        due("fault() of " + text, x.fault(), number);
-        due("where() of " + text, x.where(), place);
-    }
-
-    private static void faulty(String good, String bad, int number) {
-        faulty(good + bad, number, good.length());
-    }
-
-    private static String repeated(String text, int times) {
-        return text.repeat(times);
+        end("the promises hold");
     }
 
     private static void newObject() {
-        promise = 1;
+        begin("promise 1");
         SqueezedSwap x = new SqueezedSwap();
         due("trouble()", x.trouble(), 0);
         due("fault()", x.fault(), 0);
@@ -189,7 +103,7 @@ public final class PromiseTest {
     }
 
     private static void feed() {
-        promise = 2;
+        begin("promise 2");
         SqueezedSwap x = new SqueezedSwap();
         x.about(0);
         for (int n = 20; n <= 900; n += 20) {
@@ -210,7 +124,7 @@ public final class PromiseTest {
     }
 
     private static void swap() {
-        promise = 3;
+        begin("promise 3");
         SqueezedSwap x = new SqueezedSwap();
         for (int[] f : Driver.feeds(HEAD + DATA)) {
             x.feed(f[0], f[1], f[2], f[3], f[4]);
@@ -234,7 +148,7 @@ public final class PromiseTest {
         due("about(1)", x.about(1), 3);
         due("about(2)", x.about(2), 4);
         refused(x, "cell of former data", x.cell(0, 0), 1);
-        String full = "swap frames 1 step 1 big 15" + repeated(";data 1x16", 10) + repeated(";store 29 9", 24);
+        String full = "swap frames 1 step 1 big 15" + ";data 1x16".repeat(10) + ";store 29 9".repeat(24);
         due("ten data", Driver.tell(x, full), 10);
         due("24 ops", x.about(4), 24);
         due("no blanks but where words or wholes meet", Driver.tell(x, "swap frames1step1big4;data1x16;store0 0"), 1);
@@ -243,7 +157,7 @@ public final class PromiseTest {
     }
 
     private static void fault() {
-        promise = 4;
+        begin("promise 4");
         SqueezedSwap x = new SqueezedSwap();
         Driver.tell(x, "swap frames 0 step 1 big 4");
         due("fault()", x.fault(), 2);
@@ -256,7 +170,7 @@ public final class PromiseTest {
     }
 
     private static void faultsOfForm() {
-        promise = 3;
+        begin("promise 3");
         faulty("", 1, 0);
         faulty("   ", 1, 3);
         faulty(";", 1, 0);
@@ -293,7 +207,7 @@ public final class PromiseTest {
         faulty(HEAD + ";data 1 x 8,", ",", 1);
         faulty(HEAD + ";data 1 x 8,", ";", 1);
         faulty(HEAD + ";data 1 x 16,", "", 1);
-        faulty(HEAD + ";data 1 x 16", " $", 1, 1);
+        faulty(HEAD + ";data 1 x 16 ", "$", 1);
         faulty(HEAD + ";data 1 x 16 ", "2", 1);
         faulty(HEAD + ";store ", "", 1);
         faulty(HEAD + ";load", "", 1);
@@ -303,12 +217,8 @@ public final class PromiseTest {
         faulty(HEAD + ";data 1 x 16;store 1 0", ",", 1);
     }
 
-    private static void faulty(String good, String bad, int number, int behind) {
-        faulty(good + bad, number, good.length() + behind);
-    }
-
     private static void faultsOfNumbers() {
-        promise = 3;
+        begin("promise 3");
         faulty("swap frames ", "0 step 9", 2);
         faulty("swap frames ", "25", 2);
         faulty("swap frames 1 step ", "0", 2);
@@ -330,13 +240,13 @@ public final class PromiseTest {
     }
 
     private static void faultsOfLines() {
-        promise = 3;
+        begin("promise 3");
         faulty(HEAD + ";", "swap", 3);
         faulty(HEAD + ";data 1 x 16;", "swap frames 99", 3);
-        String many = HEAD + repeated(";data 1 x 16", 10) + ";";
+        String many = HEAD + ";data 1 x 16".repeat(10) + ";";
         faulty(many, "data", 4);
         faulty(many, "data 1 x 17", 4);
-        String ops = HEAD + ";data 1 x 16" + repeated(";store 0 0;load 1;drop 2", 8) + ";";
+        String ops = HEAD + ";data 1 x 16" + ";store 0 0;load 1;drop 2".repeat(8) + ";";
         faulty(ops, "store", 4);
         faulty(ops, "load 99", 4);
         faulty(ops, "drop 1", 4);
@@ -348,7 +258,7 @@ public final class PromiseTest {
     }
 
     private static void faultsOfCells() {
-        promise = 3;
+        begin("promise 3");
         faulty(HEAD + ";data 1 x 15", "", 6);
         faulty(HEAD + ";data 1 x 15  ", "", 6);
         faulty(HEAD + ";data 1 x 15 ", ";", 6);
@@ -361,7 +271,7 @@ public final class PromiseTest {
     }
 
     private static void where() {
-        promise = 5;
+        begin("promise 5");
         SqueezedSwap x = new SqueezedSwap();
         Driver.tell(x, "swap frames 0");
         due("where()", x.where(), 12);
@@ -386,7 +296,7 @@ public final class PromiseTest {
     }
 
     private static void about() {
-        promise = 6;
+        begin("promise 6");
         SqueezedSwap x = filled();
         int[] want = {4, 2, 12, 6, 5, 4, 2, 3, 1, 1, 19};
         for (int what = 0; what < want.length; what++) {
@@ -400,7 +310,7 @@ public final class PromiseTest {
     }
 
     private static void cell() {
-        promise = 7;
+        begin("promise 7");
         SqueezedSwap x = told();
         due("cell(3, 0)", x.cell(3, 0), 1);
         due("cell(3, 15)", x.cell(3, 15), 16);
@@ -413,7 +323,7 @@ public final class PromiseTest {
     }
 
     private static void squeezed() {
-        promise = 8;
+        begin("promise 8");
         SqueezedSwap x = told();
         int[] want = {2, 11, 4, 18, 4, 7};
         for (int d = 0; d < want.length; d++) {
@@ -430,7 +340,7 @@ public final class PromiseTest {
     }
 
     private static void pieces() {
-        promise = 9;
+        begin("promise 9");
         SqueezedSwap x = told();
         int[] want = {1, 3, 2, 2, 2, 3};
         for (int d = 0; d < want.length; d++) {
@@ -451,7 +361,7 @@ public final class PromiseTest {
     }
 
     private static void piece() {
-        promise = 10;
+        begin("promise 10");
         SqueezedSwap x = told();
         cutIs(x, 0, new int[][] {{0, 0, 16, 0}});
         cutIs(x, 1, new int[][] {{2, 0, 4, 0}, {1, 4, 8, 4}, {1, 12, 4, 4}});
@@ -473,7 +383,7 @@ public final class PromiseTest {
     }
 
     private static void fewest() {
-        promise = 11;
+        begin("promise 11");
         SqueezedSwap x = told();
         int[] want = {1, 3, 2, 2, 2, 2};
         for (int d = 0; d < want.length; d++) {
@@ -484,7 +394,7 @@ public final class PromiseTest {
     }
 
     private static void rest() {
-        promise = 12;
+        begin("promise 12");
         SqueezedSwap x = told();
         int[] want = {7, 6, 5, 4, 2, 2, 2, 2, 2, 2, 2, 2, 2, 2, 2, 2};
         for (int i = 0; i < 16; i++) {
@@ -500,7 +410,7 @@ public final class PromiseTest {
     }
 
     private static void ranked() {
-        promise = 13;
+        begin("promise 13");
         SqueezedSwap x = told();
         int[] want = {0, 2, 4, 5, 1, 3};
         for (int k = 0; k < 6; k++) {
@@ -511,7 +421,7 @@ public final class PromiseTest {
     }
 
     private static void sort() {
-        promise = 14;
+        begin("promise 14");
         SqueezedSwap x = told();
         int[] want = {1, 0, 0, 2, 0, 0};
         for (int d = 0; d < 6; d++) {
@@ -525,7 +435,7 @@ public final class PromiseTest {
     }
 
     private static void home() {
-        promise = 15;
+        begin("promise 15");
         int[][] want = {{2, 8, 15}, {2, 8, 16}, {3, 9, 15}, {4, 8, 16}};
         for (int step = 1; step <= 4; step++) {
             SqueezedSwap x = told("swap frames 1 step " + step + " big 4");
@@ -538,7 +448,7 @@ public final class PromiseTest {
     }
 
     private static void sizes() {
-        promise = 16;
+        begin("promise 16");
         SqueezedSwap x = told("swap frames 1 step 1 big 4");
         int[] frames = {1, 1, 3, 1, 1, 3, 4, 1, 4, 2, 3, 3, 1, 1, 1, 1};
         int[] slots = {16, 8, 16, 4, 3, 8, 9, 2, 7, 3, 4, 4, 1, 1, 1, 1};
@@ -566,7 +476,7 @@ public final class PromiseTest {
     }
 
     private static void gain() {
-        promise = 17;
+        begin("promise 17");
         SqueezedSwap x = holed();
         due("gain()", x.gain(), 1);
         due("nothing has moved", x.about(5), 3);
@@ -579,7 +489,7 @@ public final class PromiseTest {
     }
 
     private static void next() {
-        promise = 18;
+        begin("promise 18");
         SqueezedSwap x = told();
         due("next(11) of an empty pool", x.next(11), 0);
         due("next(9): a zone of two frames", x.next(9), 0);
@@ -611,7 +521,7 @@ public final class PromiseTest {
     }
 
     private static void coldest() {
-        promise = 19;
+        begin("promise 19");
         SqueezedSwap x = filled();
         due("coldest(4)", x.coldest(4), 1);
         due("coldest(12)", x.coldest(12), 0);
@@ -626,7 +536,7 @@ public final class PromiseTest {
     }
 
     private static void fittest() {
-        promise = 20;
+        begin("promise 20");
         SqueezedSwap x = told("swap frames 24 step 1 big 15" + DATA);
         due("fittest() of nothing", x.fittest(), 1);
         // Pages of size 7: by step 1 and 3 zones of 4 frames, by step 2 and 4 a frame for two.
@@ -652,7 +562,7 @@ public final class PromiseTest {
     }
 
     private static void zone() {
-        promise = 21;
+        begin("promise 21");
         SqueezedSwap x = filled();
         due("zone(0, 0)", x.zone(0, 0), 12);
         due("zone(0, 1)", x.zone(0, 1), 3);
@@ -673,7 +583,7 @@ public final class PromiseTest {
     }
 
     private static void slot() {
-        promise = 22;
+        begin("promise 22");
         SqueezedSwap x = filled();
         due("slot(0, 0)", x.slot(0, 0), 0);
         due("slot(0, 3)", x.slot(0, 3), -2);
@@ -690,7 +600,7 @@ public final class PromiseTest {
     }
 
     private static void page() {
-        promise = 23;
+        begin("promise 23");
         SqueezedSwap x = filled();
         int[] want = {2, 2, 1, 3, 2, 0};
         for (int p = 0; p < want.length; p++) {
@@ -702,7 +612,7 @@ public final class PromiseTest {
     }
 
     private static void pooled() {
-        promise = 24;
+        begin("promise 24");
         SqueezedSwap x = filled();
         int[] want = {4, 1, 1, 2, 0};
         for (int what = 0; what < 5; what++) {
@@ -721,7 +631,7 @@ public final class PromiseTest {
     }
 
     private static void read() {
-        promise = 25;
+        begin("promise 25");
         SqueezedSwap x = filled();
         due("read(0, 2)", x.read(0, 2), 3);
         due("read(2, 15)", x.read(2, 15), 7);
@@ -735,7 +645,7 @@ public final class PromiseTest {
     }
 
     private static void aged() {
-        promise = 26;
+        begin("promise 26");
         SqueezedSwap x = filled();
         due("aged(0)", x.aged(0), 0);
         due("aged(1)", x.aged(1), 1);
@@ -750,7 +660,7 @@ public final class PromiseTest {
     }
 
     private static void total() {
-        promise = 27;
+        begin("promise 27");
         SqueezedSwap x = filled();
         x.load(3);
         x.load(3);
@@ -766,7 +676,7 @@ public final class PromiseTest {
     }
 
     private static void same() {
-        promise = 28;
+        begin("promise 28");
         SqueezedSwap x = filled();
         x.store(5, 4);
         due("same(4, 5)", x.same(4, 5), 1);
@@ -786,7 +696,7 @@ public final class PromiseTest {
     }
 
     private static void waste() {
-        promise = 29;
+        begin("promise 29");
         SqueezedSwap x = told();
         due("waste() of nothing", x.waste(), 0);
         x = filled();
@@ -794,7 +704,7 @@ public final class PromiseTest {
     }
 
     private static void would() {
-        promise = 30;
+        begin("promise 30");
         SqueezedSwap x = filled();
         due("would(4, false)", x.would(4, false), 0);
         due("would(3, false)", x.would(3, false), 1);
@@ -815,7 +725,7 @@ public final class PromiseTest {
     }
 
     private static void freeing() {
-        promise = 31;
+        begin("promise 31");
         SqueezedSwap x = told();
         due("freeing() of nothing", x.freeing(), -2);
         x = filled();
@@ -828,7 +738,7 @@ public final class PromiseTest {
     }
 
     private static void holds() {
-        promise = 32;
+        begin("promise 32");
         SqueezedSwap x = told();
         due("holds(false) of nothing", x.holds(false), 1);
         x.store(1, 2);
@@ -848,7 +758,7 @@ public final class PromiseTest {
     }
 
     private static void pushes() {
-        promise = 33;
+        begin("promise 33");
         SqueezedSwap x = filled();
         due("pushes(5, 2): a free slot", x.pushes(5, 2), 0);
         due("pushes(5, 0): a word", x.pushes(5, 0), 0);
@@ -866,7 +776,7 @@ public final class PromiseTest {
     }
 
     private static void pushed() {
-        promise = 34;
+        begin("promise 34");
         SqueezedSwap x = filled();
         due("pushed(5, 5, 0)", x.pushed(5, 5, 0), 0);
         refused(x, "pushed(5, 5, 1)", x.pushed(5, 5, 1), 1);
@@ -883,7 +793,7 @@ public final class PromiseTest {
     }
 
     private static void foretold() {
-        promise = 35;
+        begin("promise 35");
         SqueezedSwap x = told();
         due("foretold(4, 2, 0)", x.foretold(4, 2, 0), 1);
         due("foretold(4, 2, 1)", x.foretold(4, 2, 1), 0);
@@ -916,7 +826,7 @@ public final class PromiseTest {
     }
 
     private static void enough() {
-        promise = 36;
+        begin("promise 36");
         SqueezedSwap x = told();
         due("enough()", x.enough(), 4);
         x.limit(1);
@@ -934,7 +844,7 @@ public final class PromiseTest {
     }
 
     private static void op() {
-        promise = 37;
+        begin("promise 37");
         SqueezedSwap x = told();
         int[][] want = {{0, 0, 1}, {0, 1, 2}, {1, 0, -2}, {2, 1, -2}, {0, 2, 3}};
         for (int i = 0; i < want.length; i++) {
@@ -949,7 +859,7 @@ public final class PromiseTest {
     }
 
     private static void store() {
-        promise = 38;
+        begin("promise 38");
         SqueezedSwap x = told();
         due("store(0, 1)", x.store(0, 1), 2);
         due("store(1, 2)", x.store(1, 2), 2);
@@ -974,7 +884,7 @@ public final class PromiseTest {
     }
 
     private static void storeAgain() {
-        promise = 38;
+        begin("promise 38");
         SqueezedSwap x = told(ROOMY);
         for (int p = 0; p < 5; p++) {
             x.store(p, 0);
@@ -1005,7 +915,7 @@ public final class PromiseTest {
     }
 
     private static void load() {
-        promise = 39;
+        begin("promise 39");
         SqueezedSwap x = filled();
         due("load(0)", x.load(0), 2);
         due("the youngest", x.pooled(0, 3), 2);
@@ -1019,7 +929,7 @@ public final class PromiseTest {
     }
 
     private static void drop() {
-        promise = 40;
+        begin("promise 40");
         SqueezedSwap x = filled();
         due("drop(0)", x.drop(0), 2);
         due("its zone goes", x.about(6), 1);
@@ -1034,7 +944,7 @@ public final class PromiseTest {
     }
 
     private static void hold() {
-        promise = 41;
+        begin("promise 41");
         SqueezedSwap x = filled();
         due("hold(0)", x.hold(0), true);
         due("trouble()", x.trouble(), 0);
@@ -1053,7 +963,7 @@ public final class PromiseTest {
     }
 
     private static void release() {
-        promise = 42;
+        begin("promise 42");
         SqueezedSwap x = filled();
         refused(x, "release(0)", x.release(0), 5);
         refused(x, "release(9)", x.release(9), 5);
@@ -1070,7 +980,7 @@ public final class PromiseTest {
     }
 
     private static void poke() {
-        promise = 43;
+        begin("promise 43");
         SqueezedSwap x = filled();
         due("poke(2, 0, 7)", x.poke(2, 0, 7), 5);
         due("cell(2, 0)", x.cell(2, 0), 7);
@@ -1088,7 +998,7 @@ public final class PromiseTest {
     }
 
     private static void writeBack() {
-        promise = 44;
+        begin("promise 44");
         SqueezedSwap x = filled();
         x.hold(1);
         due("writeBack(1)", x.writeBack(1), 1);
@@ -1104,7 +1014,7 @@ public final class PromiseTest {
     }
 
     private static void limit() {
-        promise = 45;
+        begin("promise 45");
         SqueezedSwap x = filled();
         due("limit(24)", x.limit(24), 0);
         due("about(0)", x.about(0), 24);
@@ -1124,7 +1034,7 @@ public final class PromiseTest {
     }
 
     private static void compact() {
-        promise = 46;
+        begin("promise 46");
         SqueezedSwap x = holed();
         x.hold(5);
         due("compact()", x.compact(), 1);
@@ -1156,7 +1066,7 @@ public final class PromiseTest {
     }
 
     private static void run() {
-        promise = 47;
+        begin("promise 47");
         SqueezedSwap x = told();
         due("run(2, 2): nothing is there", x.run(2, 2), 2);
         due("size(1)", x.size(1), 1);
@@ -1178,7 +1088,7 @@ public final class PromiseTest {
     }
 
     private static void undo() {
-        promise = 48;
+        begin("promise 48");
         SqueezedSwap x = told();
         refused(x, "undo()", x.undo(), 1);
         for (int p = 0; p < 11; p++) {
@@ -1200,7 +1110,7 @@ public final class PromiseTest {
     }
 
     private static void undoRestoresAll() {
-        promise = 48;
+        begin("promise 48");
         SqueezedSwap x = filled();
         x.load(0);
         x.undo();
@@ -1251,9 +1161,9 @@ public final class PromiseTest {
     }
 
     private static void onDisk() {
-        promise = 49;
+        begin("promise 49");
         SqueezedSwap x = new SqueezedSwap();
-        due("onDisk(0) without a swap", onDisk(x, 0), SwapModel.THROWN);
+        due("onDisk(0) without a swap", onDisk(x, 0), THROWN);
         x = told();
         x.store(20, 3);
         x.store(3, 3);
@@ -1264,8 +1174,8 @@ public final class PromiseTest {
         x.home(99);
         due("onDisk(0)", onDisk(x, 0), 5);
         due("onDisk(1)", onDisk(x, 1), 20);
-        due("onDisk(2)", onDisk(x, 2), SwapModel.THROWN);
-        due("onDisk(-1)", onDisk(x, -1), SwapModel.THROWN);
+        due("onDisk(2)", onDisk(x, 2), THROWN);
+        due("onDisk(-1)", onDisk(x, -1), THROWN);
         due("trouble() that it doesn't change", x.trouble(), 2);
     }
 
@@ -1273,12 +1183,12 @@ public final class PromiseTest {
         try {
             return x.onDisk(i);
         } catch (NoSuchElementException e) {
-            return SwapModel.THROWN;
+            return THROWN;
         }
     }
 
     private static void size() {
-        promise = 50;
+        begin("promise 50");
         SqueezedSwap x = told();
         x.feed(1, 2, 3, 4, 5);
         x.store(0, 0);
@@ -1292,7 +1202,7 @@ public final class PromiseTest {
     }
 
     private static void trouble() {
-        promise = 51;
+        begin("promise 51");
         SqueezedSwap x = new SqueezedSwap();
         x.swap(1);
         due("2", x.trouble(), 2);
