@@ -6,7 +6,7 @@ final class Calls {
     static final List<String> GOOD = List.of("about 0", "cell 0 0", "squeezed 0", "pieces 0", "piece 0 0 0", "fewest 0",
         "rest 0 0", "ranked 0", "sort 0", "home 4", "sizes 4 0", "gain", "next 4", "coldest 4", "fittest", "zone 0 0",
         "slot 0 0", "page 0", "pooled 0 0", "read 0 0", "aged 0", "total 0", "same 0 1", "waste", "would 1 0",
-        "would 1 1", "freeing", "holds 0", "holds 1", "pushes 0 0", "pushed 7 1 0", "foretold 1 1 0", "enough",
+        "would 1 1", "freeing", "holds 0", "holds 1", "pushes 0 0", "pushed 7 2 0", "foretold 1 1 0", "enough",
         "op 0 0", "store 0 0", "load 0", "drop 0", "hold 0", "release 1", "poke 0 0 1", "writeBack 1", "limit 1",
         "compact", "run 0 1", "undo");
 
