@@ -107,6 +107,12 @@ public final class EdgesOfDataTest extends Checks {
         cut(";data 5,0,5,0,5,0,5,0,5,0,5,0,5,0,5,0", 9, plain(0, 2), copy(2, 8, 2), copy(10, 6, 2));
     }
 
+    static void promise08EachCellOfACopyIsAsThatAhead() {
+        // With a first cell that isn't it would be 11, with a last one 13 below.
+        cut(";data 9,9,1,2,3,8x7,7,1,2,3", 13, run(0, 2), plain(2, 3), run(5, 7), plain(12, 4));
+        cut(";data 9,9,1,2,3,8x6,1,2,3,7,6", 14, run(0, 2), plain(2, 3), run(5, 6), copy(11, 3, 9), plain(14, 2));
+    }
+
     static void promise08AllCellsOfACopyHaveTheSameDistance() {
         // 1, 2, 3 and 4, 5, 6 have unlike distances: two copies.
         cut(";data 1,2,3,9,9,4,5,6,8,8,1,2,3,4,5,6", 17, plain(0, 8), run(8, 2), copy(10, 3, 10), copy(13, 3, 8));
@@ -211,6 +217,16 @@ public final class EdgesOfDataTest extends Checks {
 
     static void promise11OneIsTheFewest() {
         gives(of(";data 5x16"), "fewest 0", 1);
+    }
+
+    static void promise11OfEachOfTheData() {
+        row(told(), "fewest", 1, 3, 2, 2, 2, 2);
+    }
+
+    static void promise11TheFirstPieceNeedNotBeTheLongest() {
+        // A run, seven plain cells, a run; by a longer first piece, five plain cells, it takes four.
+        gives(of(";data 4,4,1,4,4,2x3,1,5x7"), "squeezed 0", 12);
+        gives(of(";data 4,4,1,4,4,2x3,1,5x7"), "fewest 0", 3);
     }
 
     static void promise11FewerThanTheCutHas() {

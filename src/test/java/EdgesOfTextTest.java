@@ -211,6 +211,23 @@ public final class EdgesOfTextTest extends Checks {
         gives(x, "pooled 1 4", 0);
     }
 
+    static void promise03OfATextThatWasRefusedNothingStays() {
+        SqueezedSwap x = new SqueezedSwap();
+        Driver.tell(x, "swap frames 9 step 3 big 9" + DATA + OPS + ";swap");
+        due("the next swap", Driver.tell(x, HEAD), 0);
+        row(x, "about", 4, 2, 12, 0, 0);
+    }
+
+    static void promise03OfFormerSwapsNothingStays() {
+        SqueezedSwap x = told();
+        for (int i = 0; i < 3; i++) {
+            due("a swap with data", Driver.tell(x, HEAD + DATA + OPS), 6);
+            row(x, "about", 4, 2, 12, 6, 5);
+            due("a swap without data", Driver.tell(x, "swap frames 1 step 1 big 4"), 0);
+            row(x, "about", 1, 1, 4, 0, 0);
+        }
+    }
+
     static void promise03NoneToTenDataAreCounted() {
         for (int data = 0; data <= 10; data++) {
             SqueezedSwap x = new SqueezedSwap();
@@ -248,8 +265,8 @@ public final class EdgesOfTextTest extends Checks {
             faulty("swap ", sign + "rames 4", 1);
             faulty("swap ", "fra" + sign, 1);
         }
-        faulty("", "zwap", 1);
-        faulty("", "swaa", 1);
+        faulty("swap frames 4 ", "stepa 2", 1);
+        faulty("swap frames 4 ", "stepz 2", 1);
     }
 
     static void promise03OnlyDigitsAreOfWholes() {

@@ -175,6 +175,18 @@ public final class EdgesOfThoughtTest extends Checks {
         gives(x, "pushes 9 3", 0);
     }
 
+    static void promise33ByStepAndBigAsTold() {
+        // Of size 7 a zone has one frame by step 4; above BIG there is none.
+        SqueezedSwap x = told(swapOf(1, 4, 7, 7, 8) + ";store 0 0");
+        gives(x, "pushes 0 0", 0);
+        gives(x, "foretold 1 1 1", 1);
+        gives(x, "pushes 0 0", 0);
+        x = told(swapOf(1, 1, 6, 7));
+        gives(x, "pushes 0 0", 0);
+        x = told(swapOf(1, 1, 7, 7));
+        gives(x, "pushes 0 0", 1);
+    }
+
     static void promise33ThePageItselfIsDroppedFirst() {
         SqueezedSwap x = after(zones(2), "limit 2");
         gives(x, "pushes 0 0", 0);
