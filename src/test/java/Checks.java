@@ -346,10 +346,42 @@ abstract class Checks {
         SqueezedSwap x = told();
         after(x, "store 6 1", "store 7 2", "store 8 5", "limit 24", "store 0 1", "store 1 5", "store 4 5", "store 2 0",
             "store 3 3", "drop 8", "compact", "hold 1", "load 3", "poke 2 0 9", "store 5 4", "drop 7", "limit 7");
-        for (int[] f : Driver.feeds("swap frames 3 step 1 big 4;load 7")) {
-            x.feed(f[0], f[1], f[2], f[3], f[4]);
+        Driver.feed(x, "swap frames 3 step 1 big 4;load 7");
+        return x;
+    }
+
+    /** All thirty pages in eight zones of four slots. */
+    static SqueezedSwap fullOfPages() {
+        return stores(told(swapOf(8, 4, 15, 4, 5)), 0, 30, 0);
+    }
+
+    /** 24 zones of a frame and a page each: all frames, and all numbers that a zone can have. */
+    static SqueezedSwap fullOfZones() {
+        return stores(told(swapOf(24, 1, 15, 13, 4)), 0, 24, 0);
+    }
+
+    /** Zones of a frame and four slots, all full; the pages are as old as their numbers tell. Data 1: class 7. */
+    static SqueezedSwap zones(int count) {
+        return stores(told(swapOf(24, 1, 15, 4, 7, 18, 2, 13)), 0, 4 * count, 0);
+    }
+
+    /** Such zones with as many pages as told here, those of the first slots. */
+    static SqueezedSwap zonesWith(int... pages) {
+        return thinned(zones(pages.length), pages);
+    }
+
+    /** Of zones of four slots, all full, only so many pages are left. */
+    static SqueezedSwap thinned(SqueezedSwap x, int... pages) {
+        for (int z = 0; z < pages.length; z++) {
+            for (int p = z * 4 + pages[z]; p < z * 4 + 4; p++) {
+                x.drop(p);
+            }
         }
         return x;
+    }
+
+    static SqueezedSwap withoutData() {
+        return told(HEAD + ";load 1");
     }
 
     /** Stores data as pages, from the first to one ahead of the end. */

@@ -48,10 +48,15 @@ final class Driver {
         return feeds;
     }
 
-    static int tell(SqueezedSwap x, String text) {
+    /** Puts a text on the tape. */
+    static void feed(SqueezedSwap x, String text) {
         for (int[] f : feeds(text)) {
             x.feed(f[0], f[1], f[2], f[3], f[4]);
         }
+    }
+
+    static int tell(SqueezedSwap x, String text) {
+        feed(x, text);
         return x.swap(text.length());
     }
 }

@@ -7,30 +7,6 @@ public final class EdgesOfActsTest extends Checks {
         runAll(EdgesOfActsTest.class);
     }
 
-    /** Zones of a frame and four slots, all full; the pages are as old as their numbers tell. Data 1: class 7. */
-    private static SqueezedSwap zones(int count) {
-        return stores(told(swapOf(24, 1, 15, 4, 7, 18, 2, 13)), 0, 4 * count, 0);
-    }
-
-    /** Such zones with as many pages as told here, those of the first slots. */
-    private static SqueezedSwap zonesWith(int... pages) {
-        SqueezedSwap x = zones(pages.length);
-        for (int z = 0; z < pages.length; z++) {
-            for (int p = z * 4 + pages[z]; p < z * 4 + 4; p++) {
-                x.drop(p);
-            }
-        }
-        return x;
-    }
-
-    private static SqueezedSwap fullOfPages() {
-        return stores(told(swapOf(8, 4, 15, 4, 5)), 0, 30, 0);
-    }
-
-    private static Supplier<SqueezedSwap> withoutData() {
-        return () -> told(HEAD + ";load 1");
-    }
-
     /** Pages everywhere, one held, and few acts, so that one more is kept beside them. */
     private static SqueezedSwap few() {
         return after(filled(), "hold 1");
@@ -44,7 +20,7 @@ public final class EdgesOfActsTest extends Checks {
 
     static void promise38DataGoUpToThoseTold() {
         bounds(1, "store 0 #", 0, 5);
-        refuses(withoutData(), 1, "store 0 0");
+        refuses(Checks::withoutData, 1, "store 0 0");
     }
 
     static void promise38AllCellsAlikeAreAWord() {
@@ -180,7 +156,7 @@ public final class EdgesOfActsTest extends Checks {
     // ---- promise 39: load
 
     static void promise39PagesGoFrom0To29() {
-        bounds(EdgesOfActsTest::fullOfPages, 1, "load #", 0, 29);
+        bounds(Checks::fullOfPages, 1, "load #", 0, 29);
     }
 
     static void promise39APageThatIsNowhereIsRefusedBy5() {
@@ -221,7 +197,7 @@ public final class EdgesOfActsTest extends Checks {
     // ---- promise 40: drop
 
     static void promise40PagesGoFrom0To29() {
-        bounds(EdgesOfActsTest::fullOfPages, 1, "drop #", 0, 29);
+        bounds(Checks::fullOfPages, 1, "drop #", 0, 29);
     }
 
     static void promise40APageThatIsNowhereIsRefusedBy5() {
@@ -256,7 +232,7 @@ public final class EdgesOfActsTest extends Checks {
     // ---- promise 41: hold
 
     static void promise41PagesGoFrom0To29() {
-        bounds(EdgesOfActsTest::fullOfPages, 1, "hold #", 0, 29);
+        bounds(Checks::fullOfPages, 1, "hold #", 0, 29);
     }
 
     static void promise41NotInThePoolIsRefusedBy5() {
@@ -322,7 +298,7 @@ public final class EdgesOfActsTest extends Checks {
 
     static void promise43DataGoUpToThoseTold() {
         bounds(1, "poke # 0 1", 0, 5);
-        refuses(withoutData(), 1, "poke 0 0 1");
+        refuses(Checks::withoutData, 1, "poke 0 0 1");
     }
 
     static void promise43CellsGoFrom0To15() {
@@ -358,7 +334,7 @@ public final class EdgesOfActsTest extends Checks {
 
     static void promise44NGoesFrom1To30() {
         bounds(2, "writeBack #", 1, 30);
-        bounds(EdgesOfActsTest::fullOfPages, 2, "writeBack #", 1, 30);
+        bounds(Checks::fullOfPages, 2, "writeBack #", 1, 30);
     }
 
     static void promise44AsManyAsThereAre() {
@@ -597,6 +573,19 @@ public final class EdgesOfActsTest extends Checks {
         gives(x, "about 8", 17);
         gives(x, "page 16", 1);
         gives(x, "page 17", 0);
+    }
+
+    static void promise48BehindANewSwapTenAreKeptAnew() {
+        SqueezedSwap x = stores(told(), 0, 7, 0);
+        Driver.tell(x, HEAD + DATA);
+        stores(x, 10, 22, 0);
+        for (int i = 0; i < 10; i++) {
+            gives(x, "undo", true);
+        }
+        refused(x, "undo()", x.undo(), 1);
+        gives(x, "about 8", 2);
+        gives(x, "page 11", 1);
+        gives(x, "page 12", 0);
     }
 
     static void promise48EachActIsUndone() {

@@ -10,20 +10,9 @@ public final class EdgesOfClassesTest extends Checks {
         return () -> told("swap frames 24 step " + step + " big 15");
     }
 
-    /** Zones of a frame and four slots, with as many pages as told here; pages are numbered through. */
-    private static SqueezedSwap zonesWith(int... pages) {
-        SqueezedSwap x = stores(told(swapOf(24, 4, 15, 4, 7, 11)), 0, pages.length * 4, 0);
-        for (int z = 0; z < pages.length; z++) {
-            for (int p = z * 4 + pages[z]; p < z * 4 + 4; p++) {
-                x.drop(p);
-            }
-        }
-        return x;
-    }
-
-    /** 24 zones of a single page each: all frames, and all numbers that a zone can have. */
-    private static SqueezedSwap fullOfZones() {
-        return stores(told(swapOf(24, 1, 15, 13, 4)), 0, 24, 0);
+    /** Zones of a frame and four slots; data 1 and 2: classes 8 and 12. */
+    private static SqueezedSwap zonesOf4(int... pages) {
+        return thinned(stores(told(swapOf(24, 4, 15, 4, 7, 11)), 0, pages.length * 4, 0), pages);
     }
 
     // ---- promise 15: home
@@ -95,7 +84,7 @@ public final class EdgesOfClassesTest extends Checks {
         SqueezedSwap x = fullOfZones();
         row(x, "sizes 13", 1, 1, 3, 24, 24);
         row(x, "sizes 4", 1, 4, 0, 0, 0);
-        x = zonesWith(4, 4, 1);
+        x = zonesOf4(4, 4, 1);
         row(x, "sizes 4", 1, 4, 0, 3, 9);
         x.drop(8);
         row(x, "sizes 4", 1, 4, 0, 2, 8);
@@ -111,25 +100,25 @@ public final class EdgesOfClassesTest extends Checks {
     }
 
     static void promise17NothingIsGainedOfASingleZone() {
-        gives(zonesWith(1), "gain", 0);
-        gives(zonesWith(4), "gain", 0);
+        gives(zonesOf4(1), "gain", 0);
+        gives(zonesOf4(4), "gain", 0);
     }
 
     static void promise17NothingIsGainedIfOnlyOneIsNotFull() {
-        gives(zonesWith(4, 1), "gain", 0);
-        gives(zonesWith(4, 4, 3), "gain", 0);
+        gives(zonesOf4(4, 1), "gain", 0);
+        gives(zonesOf4(4, 4, 3), "gain", 0);
     }
 
     static void promise17NothingIsGainedIfNoZoneGoes() {
-        gives(zonesWith(3, 3), "gain", 0);
-        gives(zonesWith(3, 2), "gain", 0);
+        gives(zonesOf4(3, 3), "gain", 0);
+        gives(zonesOf4(3, 2), "gain", 0);
     }
 
     static void promise17AZoneThatJustFitsIsGained() {
-        gives(zonesWith(3, 1), "gain", 1);
-        gives(zonesWith(2, 2), "gain", 1);
-        gives(zonesWith(1, 1, 1, 1), "gain", 3);
-        gives(zonesWith(1, 1, 1, 1, 1), "gain", 3);
+        gives(zonesOf4(3, 1), "gain", 1);
+        gives(zonesOf4(2, 2), "gain", 1);
+        gives(zonesOf4(1, 1, 1, 1), "gain", 3);
+        gives(zonesOf4(1, 1, 1, 1, 1), "gain", 3);
     }
 
     static void promise17AllFramesOfAZoneAreGained() {
@@ -141,13 +130,13 @@ public final class EdgesOfClassesTest extends Checks {
     }
 
     static void promise17ZonesOfUnlikeClassesAreNotJoined() {
-        SqueezedSwap x = after(zonesWith(1), "store 20 1", "store 21 2");
+        SqueezedSwap x = after(zonesOf4(1), "store 20 1", "store 21 2");
         gives(x, "about 6", 3);
         gives(x, "gain", 0);
     }
 
     static void promise17ClassesGainTogether() {
-        SqueezedSwap x = stores(zonesWith(1, 1), 10, 13, 1);
+        SqueezedSwap x = stores(zonesOf4(1, 1), 10, 13, 1);
         x.drop(10);
         stores(x, 20, 25, 2);
         x.drop(20);
@@ -155,13 +144,13 @@ public final class EdgesOfClassesTest extends Checks {
     }
 
     static void promise17HeldOnesAreMovedToo() {
-        SqueezedSwap x = after(zonesWith(3, 1), "hold 4");
+        SqueezedSwap x = after(zonesOf4(3, 1), "hold 4");
         gives(x, "gain", 1);
     }
 
     static void promise17GainMovesNothing() {
         changesNothing("gain");
-        changesNothing(() -> zonesWith(2, 1, 1), "gain");
+        changesNothing(() -> zonesOf4(2, 1, 1), "gain");
     }
 
     // ---- promise 18: next
@@ -197,18 +186,18 @@ public final class EdgesOfClassesTest extends Checks {
     }
 
     static void promise18AFullZoneIsNotTaken() {
-        gives(zonesWith(3), "next 4", 0);
-        gives(zonesWith(4), "next 4", 1);
+        gives(zonesOf4(3), "next 4", 0);
+        gives(zonesOf4(4), "next 4", 1);
     }
 
     static void promise18TheZoneOfMostPagesOfSeveralTheLeastNumber() {
-        gives(zonesWith(1, 2, 3, 3, 4), "next 4", 2);
-        gives(zonesWith(1, 1), "next 4", 0);
-        gives(zonesWith(4, 2, 2), "next 4", 1);
+        gives(zonesOf4(1, 2, 3, 3, 4), "next 4", 2);
+        gives(zonesOf4(1, 1), "next 4", 0);
+        gives(zonesOf4(4, 2, 2), "next 4", 1);
     }
 
     static void promise18OneThatComesHasTheLeastNumberThatIsntHad() {
-        SqueezedSwap x = zonesWith(4, 4, 4);
+        SqueezedSwap x = zonesOf4(4, 4, 4);
         gives(x, "next 4", 3);
         gives(x, "next 8", 3);
         after(x, "drop 4", "drop 5", "drop 6");
@@ -244,7 +233,7 @@ public final class EdgesOfClassesTest extends Checks {
 
     static void promise19WithoutAPageItIsMinus2() {
         gives(told(), "coldest 4", -2);
-        SqueezedSwap x = zonesWith(1);
+        SqueezedSwap x = zonesOf4(1);
         gives(x, "coldest 8", -2);
         gives(x, "coldest 4", 0);
         x.writeBack(1);
@@ -252,7 +241,7 @@ public final class EdgesOfClassesTest extends Checks {
     }
 
     static void promise19HeldOrNot() {
-        SqueezedSwap x = zonesWith(3);
+        SqueezedSwap x = zonesOf4(3);
         x.hold(0);
         gives(x, "coldest 4", 0);
         x.load(0);
@@ -263,7 +252,7 @@ public final class EdgesOfClassesTest extends Checks {
     }
 
     static void promise19TheClassIsThatOfWhatWasStored() {
-        SqueezedSwap x = zonesWith(1);
+        SqueezedSwap x = zonesOf4(1);
         x.poke(0, 8, 50);
         gives(x, "coldest 4", 0);
     }

@@ -11,10 +11,6 @@ public final class EdgesOfDataTest extends Checks {
         return told(HEAD + data);
     }
 
-    private static SqueezedSwap withoutData() {
-        return told(HEAD + ";load 1");
-    }
-
     private static SqueezedSwap withTen() {
         return told(HEAD + ";data 1x16".repeat(10));
     }
@@ -47,7 +43,7 @@ public final class EdgesOfDataTest extends Checks {
     static void promise07DataGoUpToThoseTold() {
         bounds(1, "cell # 0", 0, 5);
         bounds(EdgesOfDataTest::withTen, 1, "cell # 15", 0, 9);
-        refuses(EdgesOfDataTest::withoutData, 1, "cell 0 0");
+        refuses(Checks::withoutData, 1, "cell 0 0");
     }
 
     static void promise07CellsGoFrom0To15() {
@@ -64,7 +60,7 @@ public final class EdgesOfDataTest extends Checks {
     static void promise08DataGoUpToThoseTold() {
         bounds(1, "squeezed #", 0, 5);
         bounds(EdgesOfDataTest::withTen, 1, "squeezed #", 0, 9);
-        refuses(EdgesOfDataTest::withoutData, 1, "squeezed 0");
+        refuses(Checks::withoutData, 1, "squeezed 0");
     }
 
     static void promise08TheLeastSizeIs2AndTheGreatest18() {
@@ -145,7 +141,7 @@ public final class EdgesOfDataTest extends Checks {
     static void promise09DataGoUpToThoseTold() {
         bounds(1, "pieces #", 0, 5);
         bounds(EdgesOfDataTest::withTen, 1, "pieces #", 0, 9);
-        refuses(EdgesOfDataTest::withoutData, 1, "pieces 0");
+        refuses(Checks::withoutData, 1, "pieces 0");
     }
 
     static void promise09OnePieceIsTheFewestAndEightAreManyOnes() {
@@ -162,7 +158,7 @@ public final class EdgesOfDataTest extends Checks {
     static void promise10DataGoUpToThoseTold() {
         bounds(1, "piece # 0 0", 0, 5);
         bounds(EdgesOfDataTest::withTen, 1, "piece # 0 3", 0, 9);
-        refuses(EdgesOfDataTest::withoutData, 1, "piece 0 0 0");
+        refuses(Checks::withoutData, 1, "piece 0 0 0");
     }
 
     static void promise10PiecesGoUpToHowManyThereAre() {
@@ -212,7 +208,7 @@ public final class EdgesOfDataTest extends Checks {
     static void promise11DataGoUpToThoseTold() {
         bounds(1, "fewest #", 0, 5);
         bounds(EdgesOfDataTest::withTen, 1, "fewest #", 0, 9);
-        refuses(EdgesOfDataTest::withoutData, 1, "fewest 0");
+        refuses(Checks::withoutData, 1, "fewest 0");
     }
 
     static void promise11OneIsTheFewest() {
@@ -246,7 +242,7 @@ public final class EdgesOfDataTest extends Checks {
     static void promise12DataGoUpToThoseTold() {
         bounds(1, "rest # 0", 0, 5);
         bounds(EdgesOfDataTest::withTen, 1, "rest # 15", 0, 9);
-        refuses(EdgesOfDataTest::withoutData, 1, "rest 0 0");
+        refuses(Checks::withoutData, 1, "rest 0 0");
     }
 
     static void promise12CellsGoFrom0To15() {
@@ -268,7 +264,7 @@ public final class EdgesOfDataTest extends Checks {
     static void promise13RanksGoUpToHowManyDataThereAre() {
         bounds(1, "ranked #", 0, 5);
         bounds(EdgesOfDataTest::withTen, 1, "ranked #", 0, 9);
-        refuses(EdgesOfDataTest::withoutData, 1, "ranked 0");
+        refuses(Checks::withoutData, 1, "ranked 0");
     }
 
     static void promise13OfLikeSizesTheLeastNumberIsFirst() {
@@ -289,7 +285,7 @@ public final class EdgesOfDataTest extends Checks {
     static void promise14DataGoUpToThoseTold() {
         bounds(1, "sort #", 0, 5);
         bounds(EdgesOfDataTest::withTen, 1, "sort #", 0, 9);
-        refuses(EdgesOfDataTest::withoutData, 1, "sort 0");
+        refuses(Checks::withoutData, 1, "sort 0");
     }
 
     static void promise14ASizeAsBigIsNotAboveIt() {

@@ -4,21 +4,11 @@ public final class EdgesOfPoolTest extends Checks {
         runAll(EdgesOfPoolTest.class);
     }
 
-    /** All thirty pages in eight zones of four slots. */
-    private static SqueezedSwap fullOfPages() {
-        return stores(told(swapOf(8, 4, 15, 4, 5)), 0, 30, 0);
-    }
-
-    /** 24 zones of a single page each. */
-    private static SqueezedSwap fullOfZones() {
-        return stores(told(swapOf(24, 1, 15, 13, 4)), 0, 24, 0);
-    }
-
     // ---- promise 21: zone
 
     static void promise21ZonesGoUpToThoseThereAre() {
         bounds(1, "zone # 0", 0, 2);
-        bounds(EdgesOfPoolTest::fullOfZones, 1, "zone # 0", 0, 23);
+        bounds(Checks::fullOfZones, 1, "zone # 0", 0, 23);
         refuses(Checks::told, 1, "zone 0 0", "zone 0 1", "zone 0 2");
     }
 
@@ -53,7 +43,7 @@ public final class EdgesOfPoolTest extends Checks {
 
     static void promise22ZonesGoUpToThoseThereAre() {
         bounds(1, "slot # 0", 0, 2);
-        bounds(EdgesOfPoolTest::fullOfZones, 1, "slot # 0", 0, 23);
+        bounds(Checks::fullOfZones, 1, "slot # 0", 0, 23);
         refuses(Checks::told, 1, "slot 0 0");
     }
 
@@ -61,7 +51,7 @@ public final class EdgesOfPoolTest extends Checks {
         bounds(1, "slot 0 #", 0, 1);
         bounds(1, "slot 1 #", 0, 3);
         bounds(1, "slot 2 #", 0, 3);
-        bounds(EdgesOfPoolTest::fullOfZones, 1, "slot 23 #", 0, 0);
+        bounds(Checks::fullOfZones, 1, "slot 23 #", 0, 0);
         bounds(() -> stores(told(swapOf(4, 1, 15, 7)), 0, 1, 0), 1, "slot 0 #", 0, 8);
     }
 
@@ -96,7 +86,7 @@ public final class EdgesOfPoolTest extends Checks {
     // ---- promise 24: pooled
 
     static void promise24PagesGoFrom0To29() {
-        bounds(EdgesOfPoolTest::fullOfPages, 1, "pooled # 0", 0, 29);
+        bounds(Checks::fullOfPages, 1, "pooled # 0", 0, 29);
         row(fullOfPages(), "pooled 29", 4, 7, 1, 29, 0);
     }
 
@@ -129,7 +119,7 @@ public final class EdgesOfPoolTest extends Checks {
     // ---- promise 25: read
 
     static void promise25PagesGoFrom0To29() {
-        bounds(EdgesOfPoolTest::fullOfPages, 1, "read # 0", 0, 29);
+        bounds(Checks::fullOfPages, 1, "read # 0", 0, 29);
     }
 
     static void promise25CellsGoFrom0To15() {
@@ -171,7 +161,7 @@ public final class EdgesOfPoolTest extends Checks {
 
     static void promise26AgesGoUpToHowManyPagesThePoolHas() {
         bounds(1, "aged #", 0, 3);
-        bounds(EdgesOfPoolTest::fullOfPages, 1, "aged #", 0, 29);
+        bounds(Checks::fullOfPages, 1, "aged #", 0, 29);
         bounds(() -> after(told(), "store 0 1"), 1, "aged #", 0, 0);
     }
 
@@ -213,8 +203,8 @@ public final class EdgesOfPoolTest extends Checks {
     // ---- promise 28: same
 
     static void promise28PagesGoFrom0To29() {
-        bounds(EdgesOfPoolTest::fullOfPages, 1, "same # 0", 0, 29);
-        bounds(EdgesOfPoolTest::fullOfPages, 1, "same 0 #", 0, 29);
+        bounds(Checks::fullOfPages, 1, "same # 0", 0, 29);
+        bounds(Checks::fullOfPages, 1, "same 0 #", 0, 29);
     }
 
     static void promise28EitherIsNowhereIsRefusedBy5() {

@@ -53,6 +53,18 @@ public final class EdgesOfTextTest extends Checks {
         gives(x, "page 0", 2);
     }
 
+    static void promise01AnObjectIsGoodFor512Calls() {
+        SqueezedSwap x = new SqueezedSwap();
+        Driver.feed(x, HEAD + DATA);
+        // So many feeds, size and swap.
+        int calls = x.size(0) / 20 + 2;
+        x.swap((HEAD + DATA).length());
+        for (; calls < 511; calls++) {
+            x.store(calls % 30, calls % 6);
+        }
+        due("the 512th call", x.size(1), 10);
+    }
+
     // ---- promise 2: feed
 
     static void promise02TheTapeTakesNineHundredBytes() {
@@ -69,9 +81,7 @@ public final class EdgesOfTextTest extends Checks {
     static void promise02OfARefusedFeedNoneComes() {
         SqueezedSwap x = new SqueezedSwap();
         String text = "swap frames 4 step 2 big" + " ".repeat(874) + "12";
-        for (int[] f : Driver.feeds(text)) {
-            x.feed(f[0], f[1], f[2], f[3], f[4]);
-        }
+        Driver.feed(x, text);
         gives(x, "feed 0 0 0 0 0", -1);
         gives(x, "swap 900", 0);
         gives(x, "about 2", 12);
@@ -135,9 +145,7 @@ public final class EdgesOfTextTest extends Checks {
 
     static void promise03RefusedBy2TheTapeStays() {
         SqueezedSwap x = new SqueezedSwap();
-        for (int[] f : Driver.feeds(HEAD + ";load 1 ")) {
-            x.feed(f[0], f[1], f[2], f[3], f[4]);
-        }
+        Driver.feed(x, HEAD + ";load 1 ");
         gives(x, "size 0", 40);
         refused(x, "swap(41)", x.swap(41), 2);
         gives(x, "size 0", 40);
@@ -147,9 +155,7 @@ public final class EdgesOfTextTest extends Checks {
 
     static void promise03AllBytesThatThereAreMayBeTheText() {
         SqueezedSwap x = new SqueezedSwap();
-        for (int[] f : Driver.feeds(HEAD + ";load 11;drop")) {
-            x.feed(f[0], f[1], f[2], f[3], f[4]);
-        }
+        Driver.feed(x, HEAD + ";load 11;drop");
         refused(x, "swap(40)", x.swap(40), 4);
         gives(x, "where", 40);
         gives(x, "size 0", 0);
@@ -164,9 +170,7 @@ public final class EdgesOfTextTest extends Checks {
 
     static void promise03OnlyTheFirstNBytesCount() {
         SqueezedSwap x = new SqueezedSwap();
-        for (int[] f : Driver.feeds(HEAD + "34567890;swap$")) {
-            x.feed(f[0], f[1], f[2], f[3], f[4]);
-        }
+        Driver.feed(x, HEAD + "34567890;swap$");
         gives(x, "swap " + HEAD.length(), 0);
         gives(x, "about 2", 12);
         gives(x, "size 0", 0);

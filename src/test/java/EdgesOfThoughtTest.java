@@ -1,19 +1,7 @@
-import java.util.function.Supplier;
-
 /** The edges of promises 30 to 37: what would go, be pushed, be foretold. */
 public final class EdgesOfThoughtTest extends Checks {
     public static void main(String[] args) {
         runAll(EdgesOfThoughtTest.class);
-    }
-
-    /** 24 zones of a frame and a page each. */
-    private static SqueezedSwap fullOfZones() {
-        return stores(told(swapOf(24, 1, 15, 13, 4, 7)), 0, 24, 0);
-    }
-
-    /** Zones of a frame and four slots, all full; the pages are as old as their numbers tell. */
-    private static SqueezedSwap zones(int count) {
-        return stores(told(swapOf(24, 1, 15, 4, 7, 18, 2)), 0, 4 * count, 0);
     }
 
     private static SqueezedSwap held(SqueezedSwap x, int first, int end) {
@@ -21,10 +9,6 @@ public final class EdgesOfThoughtTest extends Checks {
             x.hold(p);
         }
         return x;
-    }
-
-    private static Supplier<SqueezedSwap> withoutData() {
-        return () -> told(HEAD + ";load 1");
     }
 
     // ---- promise 30: would
@@ -157,7 +141,7 @@ public final class EdgesOfThoughtTest extends Checks {
 
     static void promise33DataGoUpToThoseTold() {
         bounds(1, "pushes 0 #", 0, 5);
-        refuses(withoutData(), 1, "pushes 0 0");
+        refuses(Checks::withoutData, 1, "pushes 0 0");
     }
 
     static void promise33IfThereIsRoomNoneArePushed() {
@@ -241,7 +225,7 @@ public final class EdgesOfThoughtTest extends Checks {
 
     static void promise34DataGoUpToThoseTold() {
         bounds(() -> after(told(swapOf(1, 1, 15, 7, 7)), "store 0 0"), 1, "pushed 0 # 0", 0, 1);
-        refuses(withoutData(), 1, "pushed 0 0 0");
+        refuses(Checks::withoutData, 1, "pushed 0 0 0");
     }
 
     static void promise34IGoesUpToHowManyArePushed() {

@@ -126,9 +126,7 @@ public final class PromiseTest extends Checks {
     private static void swap() {
         begin("promise 3");
         SqueezedSwap x = new SqueezedSwap();
-        for (int[] f : Driver.feeds(HEAD + DATA)) {
-            x.feed(f[0], f[1], f[2], f[3], f[4]);
-        }
+        Driver.feed(x, HEAD + DATA);
         int fed = x.size(0);
         refused(x, "swap(-1)", x.swap(-1), 2);
         refused(x, "swap(too many)", x.swap(fed + 1), 2);
